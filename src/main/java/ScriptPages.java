@@ -245,7 +245,6 @@ public final class ScriptPages {
             throw new IllegalArgumentException("pages is out of range");
         }
         draft.copyFrom(script);
-        // More lines can take more pages, so no line number can be left out.
         for (int lines = LEAST_LINES; lines <= MOST_LINES; lines++) {
             draft.pageLines = lines;
             if (draftPages.arrange(draft) <= pages) {
@@ -274,6 +273,7 @@ public final class ScriptPages {
         draft.copyFrom(script);
         int present = script.lengths.at(index);
         int tried = NONE;
+        // From the top, as a longer element can take fewer pages: one that may be split may begin earlier.
         for (int length = MOST_LENGTH; length > present; length--) {
             draft.lengths.put(index, length);
             int lines = draft.linesOf(index);
