@@ -24,6 +24,13 @@ final class Check {
         }
     }
 
+    static void text(String what, String got, String due) {
+        asked++;
+        if (!got.equals(due)) {
+            report(what + " answered " + got + ", due is " + due);
+        }
+    }
+
     static void yes(String what, boolean holds) {
         asked++;
         if (!holds) {
@@ -46,6 +53,14 @@ final class Check {
         if (x.digest() != before) {
             report(what + " was refused, but changed the state");
         }
+    }
+
+    static int asked() {
+        return asked;
+    }
+
+    static int wrong() {
+        return wrong;
     }
 
     static void report(String line) {

@@ -7,13 +7,9 @@ final class ElementsTest {
     private ElementsTest() {
     }
 
-    private static void text(String what, String got, String due) {
-        Check.yes(what + " answered " + got + ", due is " + due, got.equals(due));
-    }
-
     private static void promise1() {
         ScriptPages x = new ScriptPages();
-        text("1: values of a new object", Make.values(x), "0 0 0 50 0 0 0 0");
+        Check.text("1: values of a new object", Make.values(x), "0 0 0 50 0 0 0 0");
         Check.same("1: NONE", ScriptPages.NONE, -1);
         Check.same("1: clearText()", x.clearText(), 0);
         Check.refuses("1: undo()", x, STATE, x::undo);
@@ -28,10 +24,10 @@ final class ElementsTest {
         Check.same("2: insert at the end", x.insert(1, 3, 36, -1), 2);
         Check.same("2: insert ahead", x.insert(0, 0, 1, -1), 3);
         Check.same("2: insert between", x.insert(1, 2, 400, 9), 4);
-        text("2: the heading", Make.element(x, 0), "0 1 -1 1 0 -1 0 0 1 0");
-        text("2: the name", Make.element(x, 1), "2 400 9 1 0 -1 0 2 1 0");
-        text("2: the action", Make.element(x, 2), "1 60 -1 1 0 -1 0 4 1 0");
-        text("2: the speech", Make.element(x, 3), "3 36 -1 2 0 -1 0 5 2 0");
+        Check.text("2: the heading", Make.element(x, 0), "0 1 -1 1 0 -1 0 0 1 0");
+        Check.text("2: the name", Make.element(x, 1), "2 400 9 1 0 -1 0 2 1 0");
+        Check.text("2: the action", Make.element(x, 2), "1 60 -1 1 0 -1 0 4 1 0");
+        Check.text("2: the speech", Make.element(x, 3), "3 36 -1 2 0 -1 0 5 2 0");
         Check.refuses("2: insert(-1)", x, INDEX, () -> x.insert(-1, 9, 0, 5));
         Check.refuses("2: insert(5)", x, INDEX, () -> x.insert(5, 9, 0, 5));
         Check.refuses("2: insert(MAX)", x, INDEX, () -> x.insert(Integer.MAX_VALUE, 1, 1, -1));
@@ -65,13 +61,13 @@ final class ElementsTest {
         y.lockScenes();
         y.insert(1, 0, 1, -1);
         y.lockScenes();
-        text("2: the labels", Make.labels(y), "1.0.0 1.0.1 1.1.0 2.0.0");
+        Check.text("2: the labels", Make.labels(y), "1.0.0 1.0.1 1.1.0 2.0.0");
         Check.refuses("2: a label that is there", y, STATE, () -> y.insert(1, 0, 1, -1));
         Check.refuses("2: argument ahead of labels", y, ARGUMENT, () -> y.insert(1, 0, 1, 3));
         Check.same("2: no heading, no labels", y.insert(1, 1, 1, -1), 5);
         Check.same("2: person 0", new ScriptPages().insert(0, 2, 1, 0), 1);
         Check.same("2: another place", y.insert(3, 0, 1, -1), 6);
-        text("2: the labels then", Make.labels(y), "1.0.0 1.0.1 1.0.2 1.1.0 2.0.0");
+        Check.text("2: the labels then", Make.labels(y), "1.0.0 1.0.1 1.0.2 1.1.0 2.0.0");
     }
 
     private static void promise3() {
@@ -142,7 +138,7 @@ final class ElementsTest {
 
     private static void promise9() {
         ScriptPages x = Make.of(20, "h1;n1;s10;n1;s400;h1;a400;n2;s9;n2;r1;s400;");
-        text("9: values", Make.values(x), "12 2 3 20 0 0 2 1");
+        Check.text("9: values", Make.values(x), "12 2 3 20 0 0 2 1");
         x.lockScenes();
         x.lockPages();
         x.insert(0, 0, 1, -1);
@@ -156,18 +152,18 @@ final class ElementsTest {
         Check.refuses("9: value(MIN)", x, ARGUMENT, () -> x.value(Integer.MIN_VALUE));
         x.clearText();
         x.parse();
-        text("9: values without elements", Make.values(x), "0 0 0 20 0 0 0 0");
+        Check.text("9: values without elements", Make.values(x), "0 0 0 20 0 0 0 0");
     }
 
     private static void promise10() {
         ScriptPages x = Make.of(20, "n1;h70;n1;r30;s400;n1;a240;");
-        text("10: a name without a scene", Make.element(x, 0), "2 10 1 1 -1 -1 0 0 1 0");
-        text("10: a heading", Make.element(x, 1), "0 70 -1 2 0 -1 0 3 2 0");
-        text("10: a name", Make.element(x, 2), "2 10 1 1 0 -1 0 6 1 0");
-        text("10: a remark", Make.element(x, 3), "4 30 -1 2 0 -1 0 7 2 0");
-        text("10: a split speech", Make.element(x, 4), "3 400 -1 12 0 -1 0 9 10 0");
-        text("10: a name that is carried on", Make.element(x, 5), "2 10 1 1 0 -1 1 4 1 1");
-        text("10: an action", Make.element(x, 6), "1 240 -1 4 0 -1 1 6 4 0");
+        Check.text("10: a name without a scene", Make.element(x, 0), "2 10 1 1 -1 -1 0 0 1 0");
+        Check.text("10: a heading", Make.element(x, 1), "0 70 -1 2 0 -1 0 3 2 0");
+        Check.text("10: a name", Make.element(x, 2), "2 10 1 1 0 -1 0 6 1 0");
+        Check.text("10: a remark", Make.element(x, 3), "4 30 -1 2 0 -1 0 7 2 0");
+        Check.text("10: a split speech", Make.element(x, 4), "3 400 -1 12 0 -1 0 9 10 0");
+        Check.text("10: a name that is carried on", Make.element(x, 5), "2 10 1 1 0 -1 1 4 1 1");
+        Check.text("10: an action", Make.element(x, 6), "1 240 -1 4 0 -1 1 6 4 0");
         x.lockPages();
         Check.same("10: its page mark", x.element(0, 5), 1);
         Check.same("10: the next page mark", x.element(5, 5), 2);
@@ -191,7 +187,7 @@ final class ElementsTest {
         for (int i = 0; i < x.value(0); i++) {
             carried.append(x.element(i, 9));
         }
-        text("14: the carried names", carried.toString(), "000001001000001");
+        Check.text("14: the carried names", carried.toString(), "000001001000001");
         x.remove(9);
         Check.same("14: one scene out of two", x.names(1, true), 3);
         Check.refuses("14: names(-1)", x, ARGUMENT, () -> x.names(-1, false));

@@ -2,7 +2,8 @@ import java.util.Random;
 
 /** Runs of chosen-by-seed calls on the class and on the model: all answers and exceptions are the same. */
 final class ModelTest {
-    private static final int RUNS = 700;
+    private static final int RUNS = 1000;
+    // An object is used for so many calls; what it answers later is free.
     private static final int CALLS = 512;
     private static final int[] ODD = {Integer.MIN_VALUE, -2, -1, 0, 1, 61, 401, Integer.MAX_VALUE};
 
@@ -13,6 +14,7 @@ final class ModelTest {
     // Where the run puts its weight: some runs are full of headings, some of speeches.
     private final int[] weights = new int[5];
     private final int longest;
+    private int calls = 0;
 
     private ModelTest(int run) {
         this.run = run;
@@ -36,6 +38,10 @@ final class ModelTest {
     }
 
     private void both(String call, Ask mine, Ask due) {
+        if (calls >= CALLS) {
+            return;
+        }
+        calls++;
         Object got = outcome(mine);
         Object want = outcome(due);
         Check.yes("run " + run + ": " + call + " answered " + got + ", due is " + want, got.equals(want));
@@ -63,7 +69,7 @@ final class ModelTest {
     }
 
     private void insert() {
-        int i = some(0, x.value(0));
+        int i = some(0, model.value(0));
         int kind = someKind();
         int length = some(1, longest);
         int person = kind == 2 ? some(0, 2) : random.nextInt(30) == 0 ? some(0, 9) : -1;
@@ -111,8 +117,8 @@ final class ModelTest {
     }
 
     private void change() {
-        int n = x.value(0);
-        int s = x.value(1);
+        int n = model.value(0);
+        int s = model.value(1);
         int i = some(0, n - 1);
         int length = some(1, 400);
         switch (random.nextInt(24)) {
@@ -145,9 +151,9 @@ final class ModelTest {
     }
 
     private void ask() {
-        int i = some(0, x.value(0) - 1);
-        int s = some(0, x.value(1) - 1);
-        int p = some(0, x.value(2) - 1);
+        int i = some(0, model.value(0) - 1);
+        int s = some(0, model.value(1) - 1);
+        int p = some(0, model.value(2) - 1);
         int what = some(0, 9);
         int lines = some(20, 60);
         int length = some(1, 400);
@@ -184,14 +190,13 @@ final class ModelTest {
     }
 
     private void play() {
-        for (int call = 0; call < CALLS / 2; call++) {
+        while (calls < CALLS) {
             change();
             ask();
-            if (random.nextInt(6) == 0) {
+            if (random.nextInt(6) == 0 || calls == CALLS - 1) {
                 both("digest()", x::digest, model::digest);
             }
         }
-        both("digest()", x::digest, model::digest);
     }
 
     public static void main(String[] args) {

@@ -6,15 +6,11 @@ final class PagesTest {
     private PagesTest() {
     }
 
-    private static void text(String what, String got, String due) {
-        Check.yes(what + " answered " + got + ", due is " + due, got.equals(due));
-    }
-
     /** The places of all elements (page:line+lines), and the used lines of all pages. */
     private static void set(String what, String script, String places, String fills) {
         ScriptPages x = Make.of(20, script);
-        text(what, Make.places(x), places);
-        text(what + ": used lines", Make.fills(x), fills);
+        Check.text(what, Make.places(x), places);
+        Check.text(what + ": used lines", Make.fills(x), fills);
     }
 
     private static void blankLines() {
@@ -64,32 +60,32 @@ final class PagesTest {
 
     private static void omittedHeadings() {
         ScriptPages x = Make.of(20, "r400;h400;h1;");
-        text("a long heading", Make.places(x), "0:0+16 1:0+7 1:9+1");
+        Check.text("a long heading", Make.places(x), "0:0+16 1:0+7 1:9+1");
         x.lockScenes();
         x.omit(0);
-        text("an omitted heading", Make.places(x), "0:0+16 0:18+1 1:0+1");
+        Check.text("an omitted heading", Make.places(x), "0:0+16 0:18+1 1:0+1");
         x.insert(2, 1, 1, -1);
-        text("an omitted heading stays with the next", Make.places(x), "0:0+16 1:0+1 1:2+1 1:5+1");
+        Check.text("an omitted heading stays with the next", Make.places(x), "0:0+16 1:0+1 1:2+1 1:5+1");
     }
 
     private static void promise8() {
         ScriptPages x = Make.of(20, "a400;a400;a400;s400;a400;");
-        text("8: places", Make.places(x), "0:0+7 0:8+7 0:16+4 1:3+12 1:16+4");
+        Check.text("8: places", Make.places(x), "0:0+7 0:8+7 0:16+4 1:3+12 1:16+4");
         Check.same("8: lockPages", x.lockPages(), 2);
-        text("8: marks", Make.marks(x), "1 - - 2 -");
-        text("8: a mark begins a page", Make.places(x), "0:0+7 0:8+7 0:16+4 2:0+12 2:13+7");
-        text("8: labels", Make.pageLabels(x), "1.0 1.1 2.0");
-        text("8: a page without a beginning", Make.page(x, 1), "1 1 3 -1 0");
+        Check.text("8: marks", Make.marks(x), "1 - - 2 -");
+        Check.text("8: a mark begins a page", Make.places(x), "0:0+7 0:8+7 0:16+4 2:0+12 2:13+7");
+        Check.text("8: labels", Make.pageLabels(x), "1.0 1.1 2.0");
+        Check.text("8: a page without a beginning", Make.page(x, 1), "1 1 3 -1 0");
         Check.same("8: lockPages again", x.lockPages(), 2);
-        text("8: marks again", Make.marks(x), "1 - - 2 -");
+        Check.text("8: marks again", Make.marks(x), "1 - - 2 -");
         x.setPage(60);
-        text("8: marks count on long pages", Make.pageLabels(x), "1.0 2.0");
+        Check.text("8: marks count on long pages", Make.pageLabels(x), "1.0 2.0");
         x.insert(3, 4, 400, -1);
         x.insert(0, 1, 1, -1);
-        text("8: ahead of the first mark", Make.pageLabels(x), "0.0 1.0 2.0");
-        text("8: marks stay with their elements", Make.marks(x), "- 1 - - - 2 -");
+        Check.text("8: ahead of the first mark", Make.pageLabels(x), "0.0 1.0 2.0");
+        Check.text("8: marks stay with their elements", Make.marks(x), "- 1 - - - 2 -");
         Check.same("8: new marks", x.lockPages(), 3);
-        text("8: new marks by number", Make.marks(x), "1 2 - - - 3 -");
+        Check.text("8: new marks by number", Make.marks(x), "1 2 - - - 3 -");
         Check.same("8: lockPages without elements", new ScriptPages().lockPages(), 0);
     }
 
@@ -97,65 +93,65 @@ final class PagesTest {
         ScriptPages x = Make.of(20, "r400;r400;a1;r400;h1;");
         x.lockScenes();
         Check.same("8: three marks", x.lockPages(), 3);
-        text("8: three marks by number", Make.marks(x), "1 2 - 3 -");
+        Check.text("8: three marks by number", Make.marks(x), "1 2 - 3 -");
         x.remove(1);
-        text("8: the next element gets the mark", Make.marks(x), "1 2 3 -");
+        Check.text("8: the next element gets the mark", Make.marks(x), "1 2 3 -");
         x.remove(1);
-        text("8: but none that has one", Make.marks(x), "1 3 -");
+        Check.text("8: but none that has one", Make.marks(x), "1 3 -");
         x.remove(0);
-        text("8: so 1 is gone, too", Make.marks(x), "3 -");
-        text("8: the first page has its label", Make.pageLabels(x), "3.0");
+        Check.text("8: so 1 is gone, too", Make.marks(x), "3 -");
+        Check.text("8: the first page has its label", Make.pageLabels(x), "3.0");
         x.remove(0);
-        text("8: a heading gets a mark", Make.marks(x), "3");
+        Check.text("8: a heading gets a mark", Make.marks(x), "3");
         ScriptPages y = Make.of(20, "r400;r400;");
         y.lockPages();
         y.remove(1);
-        text("8: no next element", Make.marks(y), "1");
+        Check.text("8: no next element", Make.marks(y), "1");
         y.insert(0, 1, 1, -1);
         y.remove(1);
-        text("8: no marks are left", Make.marks(y), "-");
-        text("8: pages without marks", Make.pageLabels(y), "1.0");
+        Check.text("8: no marks are left", Make.marks(y), "-");
+        Check.text("8: pages without marks", Make.pageLabels(y), "1.0");
         ScriptPages z = Make.of(20, "h1;r400;r400;a9;h1;h1;");
         z.lockScenes();
         z.lockPages();
-        text("8: marks of a scene", Make.marks(z), "1 2 3 - 4 -");
+        Check.text("8: marks of a scene", Make.marks(z), "1 2 3 - 4 -");
         z.omit(0);
-        text("8: marks of an omitted scene", Make.marks(z), "1 4 -");
+        Check.text("8: marks of an omitted scene", Make.marks(z), "1 4 -");
         z.insert(1, 4, 1, -1);
         z.insert(1, 4, 1, -1);
-        text("8: new elements have no mark", Make.marks(z), "1 - - 4 -");
+        Check.text("8: new elements have no mark", Make.marks(z), "1 - - 4 -");
         ScriptPages w = Make.of(20, "h1;r400;r400;h1;");
         w.lockScenes();
         w.lockPages();
-        text("8: marks ahead of a heading", Make.marks(w), "1 2 3 -");
+        Check.text("8: marks ahead of a heading", Make.marks(w), "1 2 3 -");
         w.omit(0);
-        text("8: the last one moves to it", Make.marks(w), "1 3");
+        Check.text("8: the last one moves to it", Make.marks(w), "1 3");
     }
 
     private static void needsEndAtMarks() {
         ScriptPages x = Make.of(20, "r400;h1;a1;");
         x.lockPages();
         x.insert(0, 1, 1, -1);
-        text("8: marks begin pages", Make.places(x), "0:0+1 1:0+16 2:0+1 2:2+1");
+        Check.text("8: marks begin pages", Make.places(x), "0:0+1 1:0+16 2:0+1 2:2+1");
         ScriptPages y = Make.of(20, "r400;h1;h1;a1;");
-        text("8: a heading behind a heading", Make.places(y), "0:0+16 0:18+1 1:0+1 1:2+1");
+        Check.text("8: a heading behind a heading", Make.places(y), "0:0+16 0:18+1 1:0+1 1:2+1");
         y.lockPages();
         y.remove(2);
-        text("8: a heading does not need a marked action", Make.places(y), "0:0+16 0:18+1 1:0+1");
+        Check.text("8: a heading does not need a marked action", Make.places(y), "0:0+16 0:18+1 1:0+1");
         ScriptPages z = Make.of(20, "r400;r50;n1;h1;s71;");
         z.lockPages();
-        text("8: a name ahead of a mark", Make.marks(z), "1 - - 2 -");
+        Check.text("8: a name ahead of a mark", Make.marks(z), "1 - - 2 -");
         z.remove(3);
-        text("8: a name does not need a marked speech", Make.places(z), "0:0+16 0:16+2 0:19+1 1:0+3");
+        Check.text("8: a name does not need a marked speech", Make.places(z), "0:0+16 0:16+2 0:19+1 1:0+3");
     }
 
     private static void promise12() {
         ScriptPages x = Make.of(20, "h1;n1;s400;a1;h1;r400;");
-        text("12: page 0", Make.page(x, 0), "1 0 17 0 4");
-        text("12: page 1", Make.page(x, 1), "2 0 17 4 2");
+        Check.text("12: page 0", Make.page(x, 0), "1 0 17 0 4");
+        Check.text("12: page 1", Make.page(x, 1), "2 0 17 4 2");
         ScriptPages y = Make.of(20, "r400;s400;");
-        text("12: the sign counts", Make.page(y, 0), "1 0 20 0 2");
-        text("12: a carried name counts", Make.page(y, 1), "2 0 10 -1 0");
+        Check.text("12: the sign counts", Make.page(y, 0), "1 0 20 0 2");
+        Check.text("12: a carried name counts", Make.page(y, 1), "2 0 10 -1 0");
         Check.refuses("12: page(-1)", x, INDEX, () -> x.page(-1, 5));
         Check.refuses("12: page(2)", x, INDEX, () -> x.page(2, 5));
         Check.refuses("12: what -1", x, ARGUMENT, () -> x.page(0, -1));
@@ -167,7 +163,7 @@ final class PagesTest {
             most.insert(i, 4, 400, -1);
         }
         Check.same("12: sixty pages", most.value(2), 60);
-        text("12: the last one", Make.page(most, 59), "60 0 16 59 1");
+        Check.text("12: the last one", Make.page(most, 59), "60 0 16 59 1");
     }
 
     private static void promise15() {

@@ -7,27 +7,23 @@ final class ScenesTest {
     private ScenesTest() {
     }
 
-    private static void text(String what, String got, String due) {
-        Check.yes(what + " answered " + got + ", due is " + due, got.equals(due));
-    }
-
     private static void promise6() {
         ScriptPages x = Make.of("a1;h1;a1;h1;h1;");
-        text("6: no scene is locked", Make.labels(x), "1.0.0 2.0.0 3.0.0");
+        Check.text("6: no scene is locked", Make.labels(x), "1.0.0 2.0.0 3.0.0");
         Check.same("6: lockScenes", x.lockScenes(), 3);
         Check.same("6: lockScenes again", x.lockScenes(), 0);
-        text("6: the same labels", Make.labels(x), "1.0.0 2.0.0 3.0.0");
+        Check.text("6: the same labels", Make.labels(x), "1.0.0 2.0.0 3.0.0");
         x.insert(5, 0, 1, -1);
         x.insert(5, 0, 1, -1);
         x.insert(0, 0, 1, -1);
         x.insert(4, 0, 1, -1);
         x.insert(4, 0, 1, -1);
-        text("6: scenes between", Make.labels(x), "0.1.0 1.0.0 1.1.0 1.2.0 2.0.0 3.0.0 3.1.0 3.2.0");
+        Check.text("6: scenes between", Make.labels(x), "0.1.0 1.0.0 1.1.0 1.2.0 2.0.0 3.0.0 3.1.0 3.2.0");
         Check.same("6: scene(0, 3)", x.scene(0, 3), 0);
         Check.same("6: lockScenes then", x.lockScenes(), 5);
         Check.same("6: scene(0, 3) then", x.scene(0, 3), 1);
         x.insert(0, 0, 1, -1);
-        text("6: ahead of 0.1.0", Make.labels(x), "0.0.1 0.1.0 1.0.0 1.1.0 1.2.0 2.0.0 3.0.0 3.1.0 3.2.0");
+        Check.text("6: ahead of 0.1.0", Make.labels(x), "0.0.1 0.1.0 1.0.0 1.1.0 1.2.0 2.0.0 3.0.0 3.1.0 3.2.0");
         ScriptPages none = new ScriptPages();
         Check.same("6: without scenes", none.lockScenes(), 0);
         Check.same("6: undoable though it changes nothing", none.undo(), 0);
@@ -39,18 +35,18 @@ final class ScenesTest {
         x.insert(1, 0, 1, -1);
         x.insert(1, 0, 1, -1);
         x.lockScenes();
-        text("6: 1.1.0 and 1.2.0", Make.labels(x), "1.0.0 1.1.0 1.2.0 2.0.0");
+        Check.text("6: 1.1.0 and 1.2.0", Make.labels(x), "1.0.0 1.1.0 1.2.0 2.0.0");
         x.insert(2, 0, 1, -1);
         x.insert(2, 0, 1, -1);
-        text("6: third numbers", Make.labels(x), "1.0.0 1.1.0 1.1.1 1.1.2 1.2.0 2.0.0");
+        Check.text("6: third numbers", Make.labels(x), "1.0.0 1.1.0 1.1.1 1.1.2 1.2.0 2.0.0");
         x.remove(2);
-        text("6: they follow their places", Make.labels(x), "1.0.0 1.1.0 1.1.1 1.2.0 2.0.0");
+        Check.text("6: they follow their places", Make.labels(x), "1.0.0 1.1.0 1.1.1 1.2.0 2.0.0");
         x.insert(4, 0, 1, -1);
-        text("6: behind the last of 1", Make.labels(x), "1.0.0 1.1.0 1.1.1 1.2.0 1.3.0 2.0.0");
+        Check.text("6: behind the last of 1", Make.labels(x), "1.0.0 1.1.0 1.1.1 1.2.0 1.3.0 2.0.0");
         x.lockScenes();
         Check.refuses("6: 1.1.1 is there", x, STATE, () -> x.insert(2, 0, 1, -1));
         x.insert(3, 0, 1, -1);
-        text("6: behind 1.1.1", Make.labels(x), "1.0.0 1.1.0 1.1.1 1.1.2 1.2.0 1.3.0 2.0.0");
+        Check.text("6: behind 1.1.1", Make.labels(x), "1.0.0 1.1.0 1.1.1 1.1.2 1.2.0 1.3.0 2.0.0");
     }
 
     private static void locksMove() {
@@ -60,14 +56,14 @@ final class ScenesTest {
         x.lockScenes();
         x.insert(2, 0, 1, -1);
         x.lockScenes();
-        text("6: locked labels", Make.labels(x), "1.0.0 1.0.1 1.1.0 2.0.0");
+        Check.text("6: locked labels", Make.labels(x), "1.0.0 1.0.1 1.1.0 2.0.0");
         x.remove(0);
-        text("6: they go with their headings", Make.labels(x), "1.0.0 1.0.1 1.1.0 2.0.0");
+        Check.text("6: they go with their headings", Make.labels(x), "1.0.0 1.0.1 1.1.0 2.0.0");
         x.insert(0, 1, 1, -1);
-        text("6: to both sides", Make.labels(x), "1.0.0 1.0.1 1.1.0 2.0.0");
+        Check.text("6: to both sides", Make.labels(x), "1.0.0 1.0.1 1.1.0 2.0.0");
         x.insert(5, 0, 1, -1);
         x.remove(5);
-        text("6: an open one takes nothing with it", Make.labels(x), "1.0.0 1.0.1 1.1.0 2.0.0");
+        Check.text("6: an open one takes nothing with it", Make.labels(x), "1.0.0 1.0.1 1.1.0 2.0.0");
     }
 
     private static void promise7() {
@@ -77,9 +73,9 @@ final class ScenesTest {
         Check.refuses("7: omit(3)", x, INDEX, () -> x.omit(3));
         x.lockScenes();
         Check.same("7: omit(1)", x.omit(1), 3);
-        text("7: the omitted scene", Make.scene(x, 1), "2 0 0 1 1 2 1 1 1 0");
-        text("7: its neighbour", Make.scene(x, 2), "3 0 0 1 0 3 2 2 1 0");
-        text("7: its heading", Make.element(x, 2), "0 100 -1 1 1 -1 0 6 1 0");
+        Check.text("7: the omitted scene", Make.scene(x, 1), "2 0 0 1 1 2 1 1 1 0");
+        Check.text("7: its neighbour", Make.scene(x, 2), "3 0 0 1 0 3 2 2 1 0");
+        Check.text("7: its heading", Make.element(x, 2), "0 100 -1 1 1 -1 0 6 1 0");
         Check.refuses("7: omitted already", x, STATE, () -> x.omit(1));
         Check.same("7: the last scene", x.omit(2), 1);
         Check.same("7: elements that are left", x.value(0), 4);
@@ -95,9 +91,9 @@ final class ScenesTest {
 
     private static void promise11() {
         ScriptPages x = Make.of(20, "a1;h61;a400;n1;s400;h1;r26;a1;h400;");
-        text("11: scene 0", Make.scene(x, 0), "1 0 0 0 0 1 4 22 9 0");
-        text("11: scene 1", Make.scene(x, 1), "2 0 0 0 0 5 3 4 2 1");
-        text("11: scene 2", Make.scene(x, 2), "3 0 0 0 0 8 1 7 3 2");
+        Check.text("11: scene 0", Make.scene(x, 0), "1 0 0 0 0 1 4 22 9 0");
+        Check.text("11: scene 1", Make.scene(x, 1), "2 0 0 0 0 5 3 4 2 1");
+        Check.text("11: scene 2", Make.scene(x, 2), "3 0 0 0 0 8 1 7 3 2");
         x.setPage(60);
         Check.same("11: eighths of another page", x.scene(0, 8), 3);
         x.lockScenes();
