@@ -76,7 +76,8 @@ final class AnswerBounds {
     }
 
     static void elementWhatRefused() {
-        Refusal.outside("what of element", Scripts.WITH_ELEMENTS, Refusal.ARGUMENT, 0, 9, (x, what) -> x.element(0, what));
+        Refusal.outside("what of element", Scripts.WITH_ELEMENTS, Refusal.ARGUMENT, 0, 9,
+                (x, what) -> x.element(0, what));
     }
 
     // ---- promise 11

@@ -223,6 +223,14 @@ final class UndoBounds {
         x.insert(0, 2, 1, 3);
         x.undo();
         Check.same("a state that is removed does not come back", x.digest(), empty);
+        ScriptPages full = Scripts.full();
+        full.remove(0);
+        full.undo();
+        Check.same("the first of sixty", full.element(0, 0), 0);
+        Make.parse(full, "");
+        full.undo();
+        Check.text("sixty elements", Make.values(full), "60 12 6 20 0 0 0 0");
+        Check.text("the last of sixty", Make.element(full, 59), "4 9 -1 1 11 -1 5 15 1 0");
     }
 
     static void undoReturns() {
