@@ -78,6 +78,10 @@ final class BoundariesTest {
     }
 
     private static void run(String name, Method test) throws IllegalAccessException {
+        if (test == null) {
+            Check.report("no such test: " + name);
+            return;
+        }
         int asked = Check.asked();
         int wrong = Check.wrong();
         try {
@@ -91,35 +95,43 @@ final class BoundariesTest {
         }
     }
 
-    private static List<String> testsOfRows(List<String> lines, List<String> sentences) {
-        List<String> names = new ArrayList<>();
+    /** A column of the table: 1 the sentences, 2 the tests. */
+    private static List<String> column(int column, List<String> lines) {
+        List<String> cells = new ArrayList<>();
         for (String line : lines) {
             Matcher row = ROW.matcher(line);
-            if (row.matches() && !line.contains("| test |")) {
-                sentences.add(row.group(1));
-                names.add(row.group(2).replace("`", ""));
+            if (row.matches() && !line.equals("| sentence | test |")) {
+                cells.add(row.group(column));
             }
         }
-        return names;
+        return cells;
+    }
+
+    private static void holdsAgainstDocument(Map<String, List<String>> list) throws IOException {
+        Path file = Path.of("../shared/DOC.md");
+        if (!Files.exists(file)) {
+            // The tests of the list are run all the same: they need no document.
+            System.out.println("no " + file + " here: the list is not held against it");
+            return;
+        }
+        Map<String, List<String>> document = sections(file);
+        Check.text("the sections", list.keySet().toString(), document.keySet().toString());
+        for (String section : list.keySet()) {
+            comparesToDocument(section, document.getOrDefault(section, List.of()), column(1, list.get(section)));
+        }
     }
 
     private static void all() throws IOException, IllegalAccessException {
-        Map<String, List<String>> document = sections(Path.of("../shared/DOC.md"));
         Map<String, List<String>> list = sections(Path.of("BOUNDARIES.md"));
-        Check.text("the sections", list.keySet().toString(), document.keySet().toString());
+        holdsAgainstDocument(list);
         Map<String, Method> tests = tests();
         Set<String> ran = new HashSet<>();
         for (String section : list.keySet()) {
-            List<String> sentences = new ArrayList<>();
-            List<String> names = testsOfRows(list.get(section), sentences);
-            comparesToDocument(section, document.getOrDefault(section, List.of()), sentences);
-            for (String name : names) {
+            for (String cell : column(2, list.get(section))) {
+                String name = cell.replace("`", "");
                 if (!name.equals(NO_TEST)) {
-                    Check.yes("no such test: " + name, tests.containsKey(name));
                     Check.yes("one sentence a test: " + name, ran.add(name));
-                    if (tests.containsKey(name)) {
-                        run(name, tests.get(name));
-                    }
+                    run(name, tests.get(name));
                 }
             }
         }
