@@ -480,8 +480,8 @@ public final class ScriptPages {
 
         void closeAt(int index) {
             int first = index > 0 ? index : 0;
-            for (int i = first + 1; i < cells.length; i++) {
-                cells[i - 1] = cells[i];
+            for (int i = first; i < cells.length - 1; i++) {
+                cells[i] = cells[i + 1];
             }
         }
 

@@ -1,11 +1,14 @@
 import java.lang.reflect.Constructor;
 import java.lang.reflect.Field;
+import java.lang.reflect.InvocationTargetException;
 import java.lang.reflect.Method;
 import java.lang.reflect.Modifier;
 import java.nio.file.Files;
 import java.nio.file.Path;
 import java.util.Arrays;
 import java.util.HashSet;
+import java.util.LinkedHashMap;
+import java.util.Map;
 import java.util.Set;
 import java.util.TreeSet;
 
@@ -39,6 +42,9 @@ final class RulesTest {
 
     private static final String[] BARRED = {"import", "catch", "finally", "synchronized", "assert", "->", "::",
         "System.", "Thread", "Random", "Object", "Exact", "equals", "hashCode", "toString", "package", "instanceof"};
+
+    private static final int[] ODD = {Integer.MIN_VALUE, Integer.MIN_VALUE + 1, -1, 0, 1, 60, 61, Integer.MAX_VALUE - 1,
+        Integer.MAX_VALUE};
 
     private RulesTest() {
     }
@@ -118,10 +124,79 @@ final class RulesTest {
         }
     }
 
-    public static void main(String[] args) throws java.io.IOException {
+    /** No hidden method throws by itself, whatever numbers it is called with, also those that the face never hands in. */
+    private static void guards() throws ReflectiveOperationException {
+        Map<Class<?>, Object> made = new LinkedHashMap<>();
+        made.put(ScriptPages.class, Scripts.rich());
+        for (int size : new int[] {-1, 0, 1, 60}) {
+            made.put(classInside("Row"), make("Row", new Object[] {size}));
+            for (String name : new String[] {"Script", "Scenes", "Pages", "History"}) {
+                made.put(classInside(name), make(name, new Object[0]));
+            }
+            Object row = made.get(classInside("Row"));
+            made.put(classInside("Reader"), make("Reader", new Object[] {row, size}));
+            for (Class<?> c : ScriptPages.class.getDeclaredClasses()) {
+                Check.yes("the test knows how to make " + c, made.containsKey(c));
+            }
+            for (Class<?> c : made.keySet()) {
+                for (Method m : c.getDeclaredMethods()) {
+                    if (!Modifier.isPublic(m.getModifiers())) {
+                        callWithOdd(m, made, new Object[m.getParameterCount()], 0);
+                    }
+                }
+            }
+        }
+    }
+
+    private static Class<?> classInside(String name) {
+        for (Class<?> c : ScriptPages.class.getDeclaredClasses()) {
+            if (c.getSimpleName().equals(name)) {
+                return c;
+            }
+        }
+        throw new IllegalStateException("the test knows of a class that is not there: " + name);
+    }
+
+    private static Object make(String name, Object[] arguments) throws ReflectiveOperationException {
+        Constructor<?> maker = classInside(name).getDeclaredConstructors()[0];
+        maker.setAccessible(true);
+        return maker.newInstance(arguments);
+    }
+
+    /** Fills in the arguments from one place on, with all odd numbers there. */
+    private static void callWithOdd(Method m, Map<Class<?>, Object> made, Object[] arguments, int place)
+            throws ReflectiveOperationException {
+        if (place == arguments.length) {
+            call(m, made.get(m.getDeclaringClass()), arguments);
+            return;
+        }
+        Class<?> type = m.getParameterTypes()[place];
+        if (type != int.class) {
+            arguments[place] = made.get(type);
+            callWithOdd(m, made, arguments, place + 1);
+            return;
+        }
+        for (int number : ODD) {
+            arguments[place] = number;
+            callWithOdd(m, made, arguments, place + 1);
+        }
+    }
+
+    private static void call(Method m, Object on, Object[] arguments) throws ReflectiveOperationException {
+        m.setAccessible(true);
+        try {
+            m.invoke(on, arguments);
+        } catch (InvocationTargetException e) {
+            Check.report(m.getDeclaringClass().getSimpleName() + "." + m.getName() + Arrays.toString(arguments)
+                    + " threw " + e.getCause());
+        }
+    }
+
+    public static void main(String[] args) throws java.io.IOException, ReflectiveOperationException {
         face();
         inside();
         source();
+        guards();
         Check.end();
     }
 }
